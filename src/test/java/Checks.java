@@ -1,9 +1,5 @@
 /** Counts the answers that are not as due, and prints each of them. */
 final class Checks {
-    interface Call {
-        long answer();
-    }
-
     interface Action {
         void act();
     }
