@@ -253,6 +253,9 @@ public final class Promises {
         // Of 5 from 0 to 6 the layers get 15 / 6 each, 2, and the upper one of them, not of the tank, 1 more.
         due("6: the uppermost of these", x.heat(0, 0, 6, 5), 3);
         row("6: the uppermost of these", x, 0, 3, 151, 3, 212, 4, 402);
+        // Cuts at 3 and 8 make 3:151 3:212 2:201 2:201; of 13 over 5 parts 39 / 5 is 7, 26 / 5 is 5, and 1 is left.
+        due("6: by the heights' difference", x.heat(0, 3, 8, 13), 3);
+        row("6: by the heights' difference", x, 0, 3, 151, 3, 219, 4, 408);
 
         TankLayers y = oneTank(10, 0);
         y.heat(0, 0, 10, 5);
@@ -337,6 +340,9 @@ public final class Promises {
         due("8: the sensor is below", x.sensor(0, 4), 14);
         x.run(1);
         row("8: by its own sensor", x, 0, 5, 70, 5, 170);
+        x.rod(0, 5, 10, 50, 5, 15, 34);
+        x.run(1);
+        row("8: its sensor is above", x, 0, 5, 70, 5, 170);
         due("8: given in all", x.told(0, 3), 500);
         due("8: minutes in all", x.told(0, 5), 6);
         x.rod(0, 0, 10, 10000000, 9, -1000, 200000);
@@ -387,7 +393,8 @@ public final class Promises {
         due("9: one that is there", x.draws(0, 380, 7), 38);
         due("9: one less", x.draws(0, 20, 0), 2);
         due("9: it is gone", x.draws(0, 20, 0), 0);
-        due("9: the last one is there", x.draws(0, 380, 8), 7);
+        due("9: the last one is there", x.draws(0, 380, 1), 7);
+        due("9: one part is a draw", x.draws(0, 380, 8), 1);
         due("9: one more again", x.draws(0, 21, 4), 0);
         CHECKS.state("9: the 41st again", () -> x.draws(0, 20, 1));
         due("9: another tank has its own", x.draws(1, 20, 1), 0);
