@@ -1,9 +1,9 @@
 /**
  * Hot water in tanks: layers that lie on one another, warm above cold. Volumes are whole parts,
- * heats whole numbers; every division rounds down, so no heat is made or lost by rounding.
+ * heats whole numbers; every division rounds down, and what it leaves over goes to a layer again.
  *
- * <p>No sum or product here leaves a long within the 512 calls that are promised: all heats of an
- * object together stay below 10^12, and the greatest factor that one is multiplied by is 10^6.
+ * <p>Nothing here overflows within the 512 calls that are promised: the water of an object holds
+ * less than 10^12 of heat, above 0 or below, and no factor that it is multiplied by is above 10^6.
  */
 public final class TankLayers {
     public static final int NONE = -1;
