@@ -279,10 +279,7 @@ public final class TankLayers {
         /** Leaves the row unmixed: a cut's rounding must not join layers before something comes in. */
         long takeFromAbove(int v) {
             int first = cutAt(full - v);
-            long taken = 0;
-            for (int k = first; k < count; k++) {
-                taken += heats[k];
-            }
+            long taken = heatOfLayers(first, count);
             count = first;
             return taken;
         }
@@ -290,15 +287,8 @@ public final class TankLayers {
         /** Leaves the row unmixed, as takeFromAbove does. */
         long takeFromBelow(int v) {
             int gone = cutAt(v);
-            long taken = 0;
-            for (int k = 0; k < gone; k++) {
-                taken += heats[k];
-            }
-            for (int k = gone; k < count; k++) {
-                volumes[k - gone] = volumes[k];
-                heats[k - gone] = heats[k];
-            }
-            count -= gone;
+            long taken = heatOfLayers(0, gone);
+            dropLowest(gone);
             return taken;
         }
 
@@ -355,8 +345,12 @@ public final class TankLayers {
         }
 
         long heatInAll() {
+            return heatOfLayers(0, count);
+        }
+
+        private long heatOfLayers(int first, int end) {
             long sum = 0;
-            for (int k = 0; k < count; k++) {
+            for (int k = first; k < end; k++) {
                 sum += heats[k];
             }
             return sum;
@@ -424,11 +418,18 @@ public final class TankLayers {
                 volumes[extra] += volumes[k];
                 heats[extra] += heats[k];
             }
-            for (int k = extra; k < count; k++) {
-                volumes[k - extra] = volumes[k];
-                heats[k - extra] = heats[k];
+            dropLowest(extra);
+        }
+
+        private void dropLowest(int gone) {
+            if (gone <= 0 || gone > count) {
+                return;
             }
-            count -= extra;
+            for (int k = gone; k < count; k++) {
+                volumes[k - gone] = volumes[k];
+                heats[k - gone] = heats[k];
+            }
+            count -= gone;
         }
     }
 
