@@ -12,8 +12,8 @@ public final class TankLayers {
     private static final int MOST_LAYERS = 40;
     private static final int MOST_DRAWS = 40;
 
-    // A full row can grow by two cuts and one layer that comes in, before it mixes.
-    private static final int ROOM_FOR_LAYERS = MOST_LAYERS + 3;
+    // Before it mixes a full row can grow by two: by two cuts, or by a cut and what comes in there.
+    private static final int ROOM_FOR_LAYERS = MOST_LAYERS + 2;
 
     private static final int LEAST_VOLUME = 10;
     private static final int MOST_VOLUME = 100000;

@@ -34,13 +34,8 @@ public final class Promises {
         CHECKS.due(what, got, want);
     }
 
-    /** A row of layers, as volume and heat by turns, from below on. */
     private static void row(String what, TankLayers x, int tank, long... want) {
-        due(what + ": layers", x.layers(tank), want.length / 2);
-        for (int k = 0; k < want.length / 2 && k < x.layers(tank); k++) {
-            due(what + ": volume of layer " + k, x.layer(tank, k, 0), want[2 * k]);
-            due(what + ": heat of layer " + k, x.layer(tank, k, 1), want[2 * k + 1]);
-        }
+        CHECKS.row(what, x, tank, want);
     }
 
     private static TankLayers oneTank(int volume, int temperature) {
