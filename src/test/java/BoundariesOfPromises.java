@@ -44,12 +44,9 @@ public final class BoundariesOfPromises {
         return x;
     }
 
-    private static TankLayers at(TankLayers x, int time) {
-        int now = x.run(1);
-        while (now < time) {
-            now = x.run(Math.min(300, time - now));
-        }
-        return x;
+    /** The house, whose time is 1, at another time. */
+    private static TankLayers houseAt(int time) {
+        return Twins.passed(Twins.house(), time - 1);
     }
 
     private static void newObject() {
@@ -367,7 +364,7 @@ public final class BoundariesOfPromises {
         TankLayers x = tanks(10, 5);
         due("at 0", x.draws(0, 0, 1), 0);
         due("at 1439", x.draws(0, 1439, 2), 0);
-        at(x, 1438);
+        Twins.passed(x, 1438);
         due("before 1439", x.told(0, 1), 0);
         x.run(1);
         due("at 1439", x.told(0, 1), 2);
@@ -434,13 +431,13 @@ public final class BoundariesOfPromises {
         due("three hundred, as the rod counts", x.told(0, 5), 301);
 
         sentence("run: .. illegal state: it would be above 5000");
-        TWINS.taken("5000 by 300", () -> at(Twins.house(), 4700), y -> y.run(300));
-        TWINS.state("5001 by 300", () -> at(Twins.house(), 4701), y -> y.run(300));
-        TWINS.taken("5000 by 1", () -> at(Twins.house(), 4999), y -> y.run(1));
-        TWINS.state("5001 by 2", () -> at(Twins.house(), 4999), y -> y.run(2));
-        TWINS.state("5001 by 1", () -> at(Twins.house(), 5000), y -> y.run(1));
-        TWINS.state("5300 by 300", () -> at(Twins.house(), 5000), y -> y.run(300));
-        TankLayers end = at(tanks(10, 5), 4999);
+        TWINS.taken("5000 by 300", () -> houseAt(4700), y -> y.run(300));
+        TWINS.state("5001 by 300", () -> houseAt(4701), y -> y.run(300));
+        TWINS.taken("5000 by 1", () -> houseAt(4999), y -> y.run(1));
+        TWINS.state("5001 by 2", () -> houseAt(4999), y -> y.run(2));
+        TWINS.state("5001 by 1", () -> houseAt(5000), y -> y.run(1));
+        TWINS.state("5300 by 300", () -> houseAt(5000), y -> y.run(300));
+        TankLayers end = Twins.passed(tanks(10, 5), 4999);
         CHECKS.state("too many", () -> end.run(2));
         due("just enough", end.run(1), 5000);
         due("other calls are taken", end.charge(0, 0, 10, 1), 50);
@@ -501,6 +498,10 @@ public final class BoundariesOfPromises {
         due("as warm as the lowest", x.warm(0, 4), 10);
         due("warmer than the lowest", x.warm(0, 5), 7);
         due("warmer than all", x.warm(0, 6), 0);
+        TankLayers fewer = tanks(10, 5);
+        fewer.charge(0, 0, 3, 4);
+        fewer.charge(0, 0, 10, 5);
+        due("no layer that was", fewer.warm(0, 5), 10);
         x.heat(0, 3, 10, -1);
         due("not quite as warm", x.warm(0, 5), 0);
         x.heat(0, 0, 3, -13);

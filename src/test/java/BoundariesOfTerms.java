@@ -65,13 +65,6 @@ public final class BoundariesOfTerms {
         return x;
     }
 
-    private static void passTo(TankLayers x, int from, int time) {
-        int now = from;
-        while (now < time) {
-            now = x.run(Math.min(300, time - now));
-        }
-    }
-
     private static void calls() {
         sentence("An object is used for at most 512 calls after it has been made");
         TankLayers x = oneTank(10, 1);
@@ -403,6 +396,11 @@ public final class BoundariesOfTerms {
         // (30 - 27) / 2 is 1, (60 - 27) / 2 is 16, (120 - 36) / 2 is 42.
         row("each for itself", x, 3, 29, 3, 44, 4, 78);
         due("lost in all", x.told(0, 4), 59);
+        TankLayers fewer = threeLayers();
+        fewer.charge(0, 0, 10, 30);
+        fewer.loses(0, 0, 1, 1);
+        fewer.run(1);
+        due("not of layers that were", fewer.told(0, 4), 300);
 
         sentence("A LOSS of ABOVE / BELOW against an AMBIENT: .. the tank mixes");
         TankLayers all = threeLayers();
@@ -552,7 +550,7 @@ public final class BoundariesOfTerms {
         int[] times = {1438, 1439, 1440, 1441, 2879, 2880, 2881, 4319, 4320, 4321};
         int now = 0;
         for (int k = 0; k < times.length; k++) {
-            passTo(day, now, times[k]);
+            Twins.passed(day, times[k] - now);
             now = times[k];
             due("up to " + now, day.told(0, 1), drawn[k]);
         }
@@ -635,9 +633,7 @@ public final class BoundariesOfTerms {
     }
 
     private static TankLayers atTheEnd() {
-        TankLayers x = Twins.house();
-        passTo(x, 1, 5000);
-        return x;
+        return Twins.passed(Twins.house(), 4999);
     }
 
     private static void temperatures() {

@@ -62,6 +62,14 @@ final class Twins {
         return x;
     }
 
+    /** Lets minutes pass, in no more runs than these need: a clock that stands still must not hold up the test. */
+    static TankLayers passed(TankLayers x, int minutes) {
+        for (int left = minutes; left > 0; left -= 300) {
+            x.run(Math.min(300, left));
+        }
+        return x;
+    }
+
     /** The first values and the last ones that are allowed, and those next to them that are not. */
     void bounds(String what, Recipe recipe, int least, int most, CallWith call) {
         taken(what + " with " + least, recipe, x -> call.on(x, least));
@@ -140,7 +148,7 @@ final class Twins {
     }
 
     private static void timetable(List<String> answers, TankLayers x, int tank) {
-        // The last tank has no draws but these: an object is good for 512 calls, so not all are asked.
+        // An object is good for 512 calls, so only the minutes are asked that the tests use.
         int last = tank == 0 ? LAST_PROBED_MINUTE : 4;
         for (int m = 0; m <= last; m++) {
             int minute = m;
